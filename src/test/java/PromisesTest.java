@@ -38,6 +38,7 @@ public final class PromisesTest {
         worst();
         check();
         checkFirstOfSeveral();
+        checkLooksAtStatesAlone();
         flaw();
         flawIsTheLeast();
         walk();
@@ -578,6 +579,22 @@ public final class PromisesTest {
         due.number("flaw()", x.flaw(), 1);
         add(x, BAD, 0, 1);
         due.number("all are so", x.check(), 0);
+        due.number("flaw()", x.flaw(), NONE);
+    }
+
+    /** Every step goes to 3; a look at 4, which is no state, would take 0 to 3 for a step to 2. */
+    private static void checkLooksAtStatesAlone() {
+        due.about("13 no state beyond the last");
+        ReachProver x = machine(2);
+        int[] lists = {START, CLAIM};
+        for (int list : lists) {
+            add(x, list, 1, 2);
+            add(x, list, 2, 1);
+        }
+        add(x, STEP, 4, 0);
+        add(x, STEP, 8, 0);
+        add(x, BAD, 0, 0);
+        due.number("0 and 3 are claimed", x.check(), 0);
         due.number("flaw()", x.flaw(), NONE);
     }
 
