@@ -60,28 +60,17 @@ public final class PromisesTest {
         due.number("clause(" + list + ", " + plus + ", " + minus + ")", x.clause(list, plus, minus), before);
     }
 
-    /** Clauses by which one state alone is in a list. */
     private static void only(ReachProver x, int list, int state) {
-        for (int i = 0; i < x.switches(); i++) {
-            boolean on = (state >> i & 1) != 0;
-            add(x, list, on ? 1 << i : 0, on ? 0 : 1 << i);
-        }
+        new Subject(due, x).only(list, state);
     }
 
-    /** A clause by which a state is not in a list. */
     private static void except(ReachProver x, int list, int state) {
-        int all = (1 << x.switches()) - 1;
-        add(x, list, all & ~state, state);
+        new Subject(due, x).except(list, state);
     }
 
-    /** Steps by which what is on goes one switch up, and from the last switch to the first. */
     private static ReachProver ring(int n) {
         ReachProver x = machine(n);
-        for (int i = 0; i < n; i++) {
-            int to = 1 << n + (i + 1) % n;
-            add(x, STEP, to, 1 << i);
-            add(x, STEP, 1 << i, to);
-        }
+        new Subject(due, x).ring();
         return x;
     }
 
@@ -453,13 +442,13 @@ public final class PromisesTest {
     private static void depthOfLongestChain() {
         due.about("10 the longest chain");
         ReachProver x = machine(6);
-        longCycle(x);
+        new Subject(due, x).longCycle();
         only(x, START, 0);
         int state = 0;
         for (int k = 0; k < 64; k++) {
             due.number("depth(" + state + ")", x.depth(state), k);
             due.number("walk(" + state + ")", x.walk(state), k + 1);
-            state = nextOnLongCycle(state);
+            state = Subject.nextOnLongCycle(6, state);
         }
         due.number("back at the start", state, 0);
         due.number("walk(0), the 65th", x.walk(0), NONE);
@@ -467,31 +456,6 @@ public final class PromisesTest {
         only(x, BAD, 32);
         due.number("steps()", x.steps(), 63);
         due.number("worst()", x.worst(), 32);
-    }
-
-    /** Every switch goes one up, and the first one comes on by the two last, turned when all but the last are off. */
-    private static int nextOnLongCycle(int state) {
-        int first = (state >> 5 ^ state >> 4) & 1;
-        if ((state & 31) == 0) {
-            first ^= 1;
-        }
-        return state << 1 & 63 | first;
-    }
-
-    private static void longCycle(ReachProver x) {
-        int first = 64;
-        for (int i = 0; i < 5; i++) {
-            add(x, STEP, 128 << i, 1 << i);
-            add(x, STEP, 1 << i, 128 << i);
-        }
-        add(x, STEP, 32 | first, 16);
-        add(x, STEP, 0, 16 | 32 | first);
-        for (int i = 0; i < 4; i++) {
-            add(x, STEP, 16 | first, 1 << i | 32);
-            add(x, STEP, 16 | 32, 1 << i | first);
-        }
-        add(x, STEP, 31 | 32 | first, 0);
-        add(x, STEP, 31, 32 | first);
     }
 
     private static void depthFollowsChanges() {
