@@ -32,10 +32,36 @@ public final class FaceTest {
         Due due = new Due();
         due.about("the face");
         due.number("NONE", ReachProver.NONE, -1);
+        due.truth("NONE can stand at a case", isNone(-1), true);
         due.truth("the class is public and final", isPublicAndFinal(), true);
+        due.text("its package", ReachProver.class.getPackageName(), "");
+        due.text("what it extends", ReachProver.class.getSuperclass().getName(), "java.lang.Object");
+        due.number("how many interfaces it implements", ReachProver.class.getInterfaces().length, 0);
+        due.text("classes inside that are seen or not static", String.join("\n", classesSeenOrNotStatic()), "");
         due.text("what can be seen", String.join("\n", seen()), String.join("\n", FACE));
         due.truth("a private method bears a public one's name", namesAreShared(), false);
         due.end();
+    }
+
+    /** Only a constant can stand at a case; with anything else this file would not compile. */
+    private static boolean isNone(int answer) {
+        switch (answer) {
+            case ReachProver.NONE:
+                return true;
+            default:
+                return false;
+        }
+    }
+
+    private static List<String> classesSeenOrNotStatic() {
+        List<String> found = new ArrayList<>();
+        for (Class<?> inside : ReachProver.class.getDeclaredClasses()) {
+            int modifiers = inside.getModifiers();
+            if (Modifier.isPublic(modifiers) || Modifier.isProtected(modifiers) || !Modifier.isStatic(modifiers)) {
+                found.add(inside.getName());
+            }
+        }
+        return found;
     }
 
     private static boolean isPublicAndFinal() {

@@ -26,6 +26,9 @@ public final class ListBoundsTest extends Bounds {
         clauseRefusesSetsBelowZero();
         clauseTakesTheNextStateInListOneAlone();
         clauseTellsFormerAndLatterStateApart();
+        clauseCountsInItsListAlone();
+        clauseHoldsByEachSwitch();
+        clauseHoldsBySomeOfSeveral();
         clauseTakesTwentyFour();
         clauseRefusesTheTwentyFifth();
         clauseTakesTwentyFourInEachListAtOnce();
@@ -37,6 +40,7 @@ public final class ListBoundsTest extends Bounds {
         dropRefusesAnEmptiedList();
         dropTakesTheOnlyOne();
         dropTakesTheTwentyFourth();
+        dropTakesOneBehindTheOther();
 
         switchesIsAnyOfOneToSix();
         countIsZeroToTwentyFour();
@@ -368,6 +372,62 @@ public final class ListBoundsTest extends Bounds {
         }
     }
 
+    private static void clauseCountsInItsListAlone() {
+        due.about("3 one more clause of a list: the other lists are as before");
+        for (int n = 1; n <= 6; n++) {
+            for (int list : LISTS) {
+                Subject x = begun(n);
+                x.close(list);
+                for (int other : LISTS) {
+                    x.count(other).is(other == list ? 1 : 0);
+                    x.holds(other, 0, 0).is(other == list ? 0 : 1);
+                    x.holds(other, lastState(n), lastState(n)).is(other == list ? 0 : 1);
+                }
+            }
+        }
+    }
+
+    private static void clauseHoldsByEachSwitch() {
+        due.about("3 terms: a state is the sum of 2^i for the switches i that are on; a set, too");
+        for (int n = 1; n <= 6; n++) {
+            for (int list : LISTS) {
+                int set = 1;
+                for (int i = 0; i < n; i++) {
+                    clauseHoldsByTheSwitch(n, list, set);
+                    set = set + set;
+                }
+            }
+        }
+    }
+
+    private static void clauseHoldsByTheSwitch(int n, int list, int set) {
+        Subject x = begun(n);
+        x.add(list, set, 0);
+        for (int state = 0; state <= lastState(n); state++) {
+            x.holds(list, state, 0).is(state / set % 2);
+        }
+        x.drop(list).is(0);
+        x.add(list, 0, set);
+        for (int state = 0; state <= lastState(n); state++) {
+            x.holds(list, state, 0).is(1 - state / set % 2);
+        }
+    }
+
+    private static void clauseHoldsBySomeOfSeveral() {
+        due.about("3 terms: it holds when some switch in PLUS is on, or some in MINUS is off");
+        for (int list : LISTS) {
+            Subject x = begun(4);
+            x.add(list, 3, 12);
+            x.holds(list, 12, 15).no();
+            x.holds(list, 13, 15).yes();
+            x.holds(list, 14, 15).yes();
+            x.holds(list, 15, 15).yes();
+            x.holds(list, 8, 15).yes();
+            x.holds(list, 4, 15).yes();
+            x.holds(list, 0, 15).yes();
+        }
+    }
+
     private static void clauseTakesTwentyFour() {
         due.about("3 terms: 24 at most in each: the 24th");
         for (int n = 1; n <= 6; n++) {
@@ -505,6 +565,22 @@ public final class ListBoundsTest extends Bounds {
                 x.count(list).is(left);
             }
             x.drop(list).none();
+        }
+    }
+
+    private static void dropTakesOneBehindTheOther() {
+        due.about("3 behind the others; 4 the last clause goes: each of 24");
+        for (int list : LISTS) {
+            Subject x = begun(5);
+            for (int state = 0; state < 24; state++) {
+                x.except(list, state);
+            }
+            for (int left = 23; left >= 0; left--) {
+                x.holds(list, left, 0).no();
+                x.drop(list).is(left);
+                x.holds(list, left, 0).yes();
+                x.holds(list, 0, 0).is(left == 0 ? 1 : 0);
+            }
         }
     }
 

@@ -21,6 +21,8 @@ public final class PathBoundsTest extends Bounds {
         walkRefusesTheSixtyFifth();
         walkPassesAllStatesOfTheLargestMachine();
         walkBeginsAnewAfterAFullPath();
+        walkChangesThePathAlone();
+        walkPassesStatesWhateverIsBadOrClaimed();
 
         arrivesNotOnAnEmptyPath();
         arrivesOnAPathOfOne();
@@ -284,6 +286,54 @@ public final class PathBoundsTest extends Bounds {
         x.begin(1).yes();
         goRoundAtZero(x, 64);
         x.walk(0).none();
+    }
+
+    private static void walkChangesThePathAlone() {
+        due.about("15 the path goes on, and nothing else changes");
+        Subject x = begun(3);
+        x.ring();
+        x.only(START, 1);
+        x.only(BAD, 4);
+        x.except(CLAIM, 6);
+        int state = 1;
+        for (int length = 1; length <= 64; length++) {
+            x.walk(state).is(length);
+            state = state == 4 ? 1 : 2 * state;
+            if (length < 4 || length > 60) {
+                expectRingOfThree(x);
+            }
+        }
+    }
+
+    private static void expectRingOfThree(Subject x) {
+        x.switches().is(3);
+        int[] counts = {3, 6, 3, 1};
+        for (int list : LISTS) {
+            x.count(list).is(counts[list]);
+        }
+        int[] depths = {-1, 0, 1, -1, 2, -1, -1, -1};
+        for (int state = 0; state <= 7; state++) {
+            x.depth(state).is(depths[state]);
+        }
+        x.safe().no();
+        x.steps().is(2);
+        x.reached().is(3);
+        x.worst().is(4);
+        x.check().is(2);
+        x.flaw().is(3);
+    }
+
+    private static void walkPassesStatesWhateverIsBadOrClaimed() {
+        due.about("15 terms: the first one is a start, and one can go from each to the next; that is all");
+        for (int n = 1; n <= 6; n++) {
+            Subject x = begun(n);
+            x.only(BAD, 0);
+            x.close(CLAIM);
+            x.walk(0).is(1);
+            x.walk(0).is(2);
+            x.walk(lastState(n)).is(3);
+            x.walk(0).is(4);
+        }
     }
 
     private static void arrivesNotOnAnEmptyPath() {

@@ -45,7 +45,6 @@ public final class PromisesTest {
         walkHasSixtyFour();
         walkRefusedChangesNothing();
         arrives();
-        manyCalls();
         due.end();
     }
 
@@ -667,16 +666,5 @@ public final class PromisesTest {
         due.truth("empty, all are bad", x.arrives(), false);
         due.number("walk(0)", x.walk(0), 1);
         due.truth("at 0", x.arrives(), true);
-    }
-
-    private static void manyCalls() {
-        due.about("512 calls");
-        ReachProver x = new ReachProver();
-        for (int i = 0; i < 128; i++) {
-            due.number("clause(1, 0, 0)", x.clause(STEP, 0, 0), 0);
-            due.number("walk(1)", x.walk(1), 1);
-            due.number("reached()", x.reached(), 2);
-            due.number("drop(1)", x.drop(STEP), 0);
-        }
     }
 }

@@ -13,6 +13,8 @@ public final class ReachBoundsTest extends Bounds {
             allListsEmpty(n);
             allStatesReached(n);
             fullLists(n);
+            reachedWhateverIsBadOrClaimed(n);
+            claimShowsItForEachBadState(n);
 
             safeWithABadStateThatIsNotReached(n);
             stepsAreNone(n);
@@ -233,6 +235,40 @@ public final class ReachBoundsTest extends Bounds {
         x.worst().none();
         x.check().is(0);
         x.flaw().none();
+    }
+
+    private static void reachedWhateverIsBadOrClaimed(int n) {
+        due.about("9 to 11 terms: reached from a start by steps, whatever is bad or claimed, n " + n);
+        Subject x = begun(n);
+        x.longCycle();
+        x.only(START, 0);
+        int[] others = {BAD, CLAIM};
+        for (int list : others) {
+            expectLongestChain(x, n);
+            x.close(list);
+            expectLongestChain(x, n);
+        }
+    }
+
+    private static void expectLongestChain(Subject x, int n) {
+        x.reached().is(1 << n);
+        x.depth(1 << n - 1).is((1 << n) - 1);
+    }
+
+    /** All but one state are claimed; at first one can go to it, and then no more. */
+    private static void claimShowsItForEachBadState(int n) {
+        due.about("13 terms: the claim shows that nothing bad is reached, n " + n);
+        for (int bad = 0; bad <= lastState(n); bad++) {
+            Subject x = begun(n);
+            x.only(BAD, bad);
+            x.except(START, bad);
+            x.except(CLAIM, bad);
+            x.check().is(2);
+            x.safe().no();
+            x.add(STEP, lastState(n) - bad << n, bad << n);
+            x.check().is(0);
+            x.safe().yes();
+        }
     }
 
     private static void safeWithABadStateThatIsNotReached(int n) {

@@ -1,179 +1,15 @@
 import java.util.ArrayList;
 import java.util.List;
 
-/**
- * "A call that is refused changes nothing": for each refused call, in many states of the object, every method
- * answers behind it what it answered before it, and what it answers an object for which it was not made.
- */
-public final class RefusedTest extends Bounds {
-    /** So many questions go with one object, twice, that its making and they stay within its 512 calls. */
-    private static final int AT_ONCE = 128;
-
-    private interface Ask {
-        Subject.Answer of(Subject x);
-    }
-
-    private interface Making {
-        void make(Subject x);
-    }
-
-    /** A state of the object, how to come to it, and the calls that are refused in it alone. */
-    private static final class Case {
-        private final String name;
-        private final int n;
-        private final Making making;
-        private final List<Ask> refused = new ArrayList<>();
-
-        Case(String name, int n, Making making) {
-            this.name = name;
-            this.n = n;
-            this.making = making;
-        }
-
-        Subject made() {
-            due.about(name);
-            Subject x = fresh();
-            making.make(x);
-            return x;
-        }
-
-        Case refuses(Ask call) {
-            refused.add(call);
-            return this;
-        }
-
-        Case refusesToWalk() {
-            for (int state = 0; state <= lastState(n); state++) {
-                int to = state;
-                refused.add(x -> x.walk(to));
-            }
-            return this;
-        }
-
-        Case refusesToDrop() {
-            for (int list : LISTS) {
-                refused.add(x -> x.drop(list));
-            }
-            return this;
-        }
-
-        Case refusesMoreIn(int list) {
-            int largest = largestSet(list, n);
-            refused.add(x -> x.clause(list, 0, 0));
-            refused.add(x -> x.clause(list, 1, 0));
-            refused.add(x -> x.clause(list, 0, 1));
-            refused.add(x -> x.clause(list, largest, largest));
-            return this;
-        }
-    }
-
+/** "A call that is refused changes nothing": each refused call, in many states of the object. */
+public final class RefusedTest extends Unchanged {
     public static void main(String[] args) {
         for (Case each : cases()) {
-            tryAll(each);
+            List<Ask> calls = refusedAlways(each.n);
+            calls.addAll(each.refused);
+            tryAll(each, calls, true);
         }
         due.end();
-    }
-
-    private static List<Case> cases() {
-        List<Case> cases = new ArrayList<>();
-        cases.add(new Case("a new object", 1, x -> { }).refusesToDrop());
-        cases.add(new Case("a new object with a path", 1, x -> x.walk(1).is(1)).refusesToDrop());
-        for (int n = 1; n <= 6; n++) {
-            addOrdinaryCases(cases, n);
-            addEmptyCases(cases, n);
-        }
-        for (int list : LISTS) {
-            addFullList(cases, list);
-        }
-        addAllListsFull(cases);
-        addFullPaths(cases);
-        return cases;
-    }
-
-    /** All lists tell states apart; the ring goes from 1 to 2 and on, and from 1 to itself where it has one switch. */
-    private static void tellOrdinary(Subject x, int n) {
-        x.begin(n).yes();
-        x.ring();
-        x.only(START, 1);
-        x.only(BAD, 1 << n - 1);
-        x.except(CLAIM, 0);
-        x.add(CLAIM, 1, lastState(n) - 1);
-    }
-
-    private static void addOrdinaryCases(List<Case> cases, int n) {
-        int second = n == 1 ? 1 : 2;
-        cases.add(new Case("no path, n " + n, n, x -> tellOrdinary(x, n))
-            .refuses(x -> x.walk(0)));
-        cases.add(new Case("a path of one, n " + n, n, x -> {
-            tellOrdinary(x, n);
-            x.walk(1).is(1);
-        }).refuses(x -> x.walk(0)).refuses(x -> x.walk(n == 1 ? 0 : 1)));
-        cases.add(new Case("a path of two, n " + n, n, x -> {
-            tellOrdinary(x, n);
-            x.walk(1).is(1);
-            x.walk(second).is(2);
-        }).refuses(x -> x.walk(0)).refuses(x -> x.walk(n == 1 ? 0 : second)));
-    }
-
-    private static void addEmptyCases(List<Case> cases, int n) {
-        cases.add(new Case("empty lists and a path, n " + n, n, x -> {
-            x.begin(n).yes();
-            x.walk(lastState(n)).is(1);
-        }).refusesToDrop());
-        cases.add(new Case("no start, n " + n, n, x -> {
-            x.begin(n).yes();
-            x.close(START);
-        }).refusesToWalk());
-        cases.add(new Case("no step, n " + n, n, x -> {
-            x.begin(n).yes();
-            x.close(STEP);
-            x.walk(lastState(n)).is(1);
-        }).refusesToWalk());
-    }
-
-    private static void addFullList(List<Case> cases, int list) {
-        cases.add(new Case("list " + list + " is full", 2, x -> {
-            x.begin(2).yes();
-            x.fill(list, 24);
-            x.walk(0).is(1);
-            x.walk(3).is(2);
-        }).refusesMoreIn(list));
-    }
-
-    private static void addAllListsFull(List<Case> cases) {
-        Case all = new Case("all lists are full", 3, x -> {
-            tellOrdinary(x, 3);
-            for (int list : LISTS) {
-                x.fill(list, 24);
-            }
-            x.walk(1).is(1);
-        });
-        for (int list : LISTS) {
-            all.refusesMoreIn(list);
-        }
-        cases.add(all);
-    }
-
-    private static void addFullPaths(List<Case> cases) {
-        int[] numbers = {1, 6};
-        for (int n : numbers) {
-            cases.add(new Case("the path is full, n " + n, n, x -> {
-                x.begin(n).yes();
-                x.add(BAD, 1, 0);
-                for (int length = 1; length <= 64; length++) {
-                    x.walk(length % 2).is(length);
-                }
-            }).refusesToWalk());
-        }
-        cases.add(new Case("the path is full with each state once", 6, x -> {
-            x.begin(6).yes();
-            x.longCycle();
-            int state = 0;
-            for (int length = 1; length <= 64; length++) {
-                x.walk(state).is(length);
-                state = Subject.nextOnLongCycle(6, state);
-            }
-        }).refusesToWalk());
     }
 
     /** The calls that are refused in every state of an object. */
@@ -183,12 +19,9 @@ public final class RefusedTest extends Bounds {
         for (int number : noNumbers) {
             calls.add(x -> x.begin(number));
         }
-        int[] noLists = {-1, 4, LEAST, GREATEST};
-        for (int list : noLists) {
+        for (int list : SOME_NO_LISTS) {
             calls.add(x -> x.clause(list, 0, 0));
             calls.add(x -> x.drop(list));
-            calls.add(x -> x.count(list));
-            calls.add(x -> x.holds(list, 0, 0));
         }
         for (int list : LISTS) {
             int[] noSets = {-1, largestSet(list, n) + 1, LEAST, GREATEST};
@@ -197,142 +30,9 @@ public final class RefusedTest extends Bounds {
                 calls.add(x -> x.clause(list, 0, set));
             }
         }
-        int[] noStates = {-1, 1 << n, LEAST, GREATEST};
-        for (int state : noStates) {
+        for (int state : someNoStates(n)) {
             calls.add(x -> x.walk(state));
-            calls.add(x -> x.depth(state));
-            calls.add(x -> x.holds(START, state, 0));
-            calls.add(x -> x.holds(STEP, state, 0));
-            calls.add(x -> x.holds(STEP, 0, state));
         }
         return calls;
-    }
-
-    private static void tryAll(Case each) {
-        List<Ask> calls = refusedAlways(each.n);
-        calls.addAll(each.refused);
-        List<List<Ask>> questions = inParts(questions(each.n));
-        List<List<Ask>> rows = new ArrayList<>(questions);
-        rows.addAll(rowsThatChange(each.n));
-        List<long[]> wanted = new ArrayList<>();
-        for (List<Ask> row : rows) {
-            wanted.add(answers(each.made(), row));
-        }
-        for (Ask call : calls) {
-            for (List<Ask> part : questions) {
-                answersStay(each, call, part);
-            }
-            for (int i = 0; i < rows.size(); i++) {
-                answersAreThoseWithoutTheCall(each, call, rows.get(i), wanted.get(i));
-            }
-        }
-    }
-
-    private static void answersStay(Case each, Ask call, List<Ask> part) {
-        Subject x = each.made();
-        long[] before = answers(x, part);
-        refuse(each, x, call);
-        expect(x, part, before);
-    }
-
-    private static void answersAreThoseWithoutTheCall(Case each, Ask call, List<Ask> row, long[] want) {
-        Subject x = each.made();
-        refuse(each, x, call);
-        expect(x, row, want);
-    }
-
-    private static void refuse(Case each, Subject x, Ask call) {
-        Subject.Answer answer = call.of(x);
-        answer.refused();
-        due.about(each.name + ", behind the refused " + answer.words());
-    }
-
-    private static long[] answers(Subject x, List<Ask> row) {
-        long[] answers = new long[row.size()];
-        for (int i = 0; i < answers.length; i++) {
-            answers[i] = row.get(i).of(x).value;
-        }
-        return answers;
-    }
-
-    private static void expect(Subject x, List<Ask> row, long[] want) {
-        for (int i = 0; i < want.length; i++) {
-            row.get(i).of(x).is(want[i]);
-        }
-    }
-
-    /** All that can be asked of an object without a change to it. */
-    private static List<Ask> questions(int n) {
-        List<Ask> questions = new ArrayList<>(summary());
-        for (int state = 0; state <= lastState(n); state++) {
-            int from = state;
-            questions.add(x -> x.depth(from));
-            for (int list : LISTS_OF_STATES) {
-                questions.add(x -> x.holds(list, from, 0));
-            }
-            for (int next = 0; next <= lastState(n); next++) {
-                int to = next;
-                questions.add(x -> x.holds(STEP, from, to));
-            }
-        }
-        return questions;
-    }
-
-    private static List<Ask> summary() {
-        List<Ask> summary = new ArrayList<>();
-        summary.add(Subject::switches);
-        for (int list : LISTS) {
-            summary.add(x -> x.count(list));
-        }
-        summary.add(Subject::arrives);
-        summary.add(Subject::safe);
-        summary.add(Subject::steps);
-        summary.add(Subject::reached);
-        summary.add(Subject::worst);
-        summary.add(Subject::check);
-        summary.add(Subject::flaw);
-        return summary;
-    }
-
-    private static List<List<Ask>> inParts(List<Ask> questions) {
-        List<List<Ask>> parts = new ArrayList<>();
-        for (int from = 0; from < questions.size(); from += AT_ONCE) {
-            parts.add(questions.subList(from, Math.min(from + AT_ONCE, questions.size())));
-        }
-        return parts;
-    }
-
-    /** What begin, clause, drop and walk answer, and what is so behind them. */
-    private static List<List<Ask>> rowsThatChange(int n) {
-        List<List<Ask>> rows = new ArrayList<>();
-        for (int number = 1; number <= 6; number++) {
-            int to = number;
-            rows.add(withSummary(1, x -> x.begin(to)));
-        }
-        for (int list : LISTS) {
-            rows.add(withSummary(1, x -> x.clause(list, 1, 0)));
-            rows.add(withSummary(1, x -> x.clause(list, 0, 0)));
-            rows.add(withSummary(1, x -> x.drop(list)));
-            // One more than a list can have, so that the answers tell how many there were.
-            rows.add(withSummary(25, x -> x.clause(list, 1, 1)));
-            rows.add(withSummary(25, x -> x.drop(list)));
-        }
-        for (int state = 0; state <= lastState(n); state++) {
-            int to = state;
-            rows.add(withSummary(1, x -> x.walk(to)));
-        }
-        rows.add(withSummary(65, x -> x.walk(1)));
-        return rows;
-    }
-
-    private static List<Ask> withSummary(int times, Ask call) {
-        List<Ask> row = new ArrayList<>();
-        for (int i = 0; i < times; i++) {
-            row.add(call);
-        }
-        row.addAll(summary());
-        row.add(x -> x.walk(1));
-        row.add(x -> x.walk(0));
-        return row;
     }
 }

@@ -1,6 +1,6 @@
 /** An object under test: its answers come with the words of the call, and its calls are held to the document's 512. */
 final class Subject {
-    private static final int MOST_CALLS = 512;
+    static final int MOST_CALLS = 512;
     private static final int STEP = 1;
 
     private final Due due;
@@ -17,15 +17,15 @@ final class Subject {
         private final Due due;
         private final String name;
         private final int[] arguments;
-        private final long whenRefused;
+        private final long whenNothing;
         final long value;
 
-        private Answer(Due due, String name, int[] arguments, long value, long whenRefused) {
+        private Answer(Due due, String name, int[] arguments, long value, long whenNothing) {
             this.due = due;
             this.name = name;
             this.arguments = arguments;
             this.value = value;
-            this.whenRefused = whenRefused;
+            this.whenNothing = whenNothing;
         }
 
         String words() {
@@ -53,8 +53,8 @@ final class Subject {
             is(ReachProver.NONE);
         }
 
-        void refused() {
-            is(whenRefused);
+        void nothing() {
+            is(whenNothing);
         }
     }
 
@@ -133,6 +133,10 @@ final class Subject {
         if (calls == MOST_CALLS + 1) {
             due.truth("the test's 513th call of one object is made", true, false);
         }
+    }
+
+    int calls() {
+        return calls;
     }
 
     void add(int list, int plus, int minus) {
