@@ -21,7 +21,7 @@ abstract class Unchanged extends Bounds {
 
     /** A state of the object, how to come to it, and the calls that are refused in it alone. */
     static final class Case {
-        private final String name;
+        final String name;
         final int n;
         private final Making making;
         final List<Ask> refused = new ArrayList<>();
@@ -211,7 +211,7 @@ abstract class Unchanged extends Bounds {
         due.about(each.name + ", behind " + answer.words());
     }
 
-    private static long[] answers(Subject x, List<Ask> row) {
+    static long[] answers(Subject x, List<Ask> row) {
         long[] answers = new long[row.size()];
         for (int i = 0; i < answers.length; i++) {
             answers[i] = row.get(i).of(x).value;
@@ -219,7 +219,7 @@ abstract class Unchanged extends Bounds {
         return answers;
     }
 
-    private static void expect(Subject x, List<Ask> row, long[] want) {
+    static void expect(Subject x, List<Ask> row, long[] want) {
         for (int i = 0; i < want.length; i++) {
             row.get(i).of(x).is(want[i]);
         }
